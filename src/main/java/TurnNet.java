@@ -974,34 +974,24 @@ public final class TurnNet {
                 return;
             }
             int sign = tape[ahead];
-            if (isLetter(sign)) {
+            ahead++;
+            if (sign >= 'a' && sign <= 'z') {
                 kind = WORD;
-                while (ahead < size && isLetter(tape[ahead])) {
+                while (ahead < size && tape[ahead] >= 'a' && tape[ahead] <= 'z') {
                     ahead++;
                 }
-            } else if (isDigit(sign)) {
+            } else if (sign >= '0' && sign <= '9') {
                 kind = NUMBER;
-                while (ahead < size && isDigit(tape[ahead])) {
+                value = sign - '0';
+                while (ahead < size && tape[ahead] >= '0' && tape[ahead] <= '9') {
                     value = Math.min(10 * value + tape[ahead] - '0', TOO_GREAT);
                     ahead++;
                 }
             } else {
-                kind = isSign(sign) ? sign : NO_TOKEN;
-                ahead++;
+                boolean known = sign == ';' || sign == '(' || sign == ')' || sign == '+'
+                        || sign == '-' || sign == '*' || sign == '/' || sign == '%';
+                kind = known ? sign : NO_TOKEN;
             }
-        }
-
-        private static boolean isLetter(int sign) {
-            return sign >= 'a' && sign <= 'z';
-        }
-
-        private static boolean isDigit(int sign) {
-            return sign >= '0' && sign <= '9';
-        }
-
-        private static boolean isSign(int sign) {
-            return sign == ';' || sign == '(' || sign == ')' || sign == '+' || sign == '-'
-                    || sign == '*' || sign == '/' || sign == '%';
         }
     }
 
