@@ -396,6 +396,7 @@ public final class ActPromisesTest {
         x.cut(0);
         x.cut(1);
         CHECK.due("38 all wait: 1 + 2 + 3 + 4 + 4", x.game(0, 5, 2), 14);
+        CHECK.due("38 the same game, the same answer", x.game(0, 5, 2), 14);
         CHECK.due("38 all are there", x.game(0, 5, 1), 4);
         CHECK.due("38 12 at most", x.game(0, 60, 1), 12);
         CHECK.due("38 the others are refused", x.game(0, 60, 3), 48);
@@ -425,6 +426,11 @@ public final class ActPromisesTest {
     private static void boxes() {
         TurnNet x = net(LINE);
         CHECK.due("43 nothing was kept", x.back(0), -1);
+        CHECK.due("42 box 0", x.image(0), 0);
+        x.turn(0);
+        CHECK.due("43 box 0", x.back(0), 0);
+        CHECK.due("43 box 0", x.link(0, 2), 0);
+        x = net(LINE);
         CHECK.due("42 none such", x.image(2), -1);
         CHECK.due("42 none such", x.image(-1), -1);
         CHECK.due("43 none such", x.back(2), -1);

@@ -5,6 +5,8 @@ public final class TextPromisesTest {
     public static void main(String[] args) {
         newObject();
         tape();
+        behindTheEnd();
+        netUponNet();
         goodTexts();
         faults();
         faultsOfFormulas();
@@ -64,6 +66,45 @@ public final class TextPromisesTest {
         CHECK.due("4 the tape is empty then", x.about(11), 0);
     }
 
+    /** What stood behind the end once is gone. */
+    private static void behindTheEnd() {
+        TurnNet x = new TurnNet();
+        x.feed(0x73776974, 0x63686573, 0x2032333b, 0x20202020, 0x20202020);
+        x.end(10);
+        CHECK.due("3 'switches 2'", x.net(), -1);
+        CHECK.due("3 not 23", x.fault(0) * 100 + x.fault(1), 110);
+        x.feed(0x73776974, 0x63686573, 0x20333b72, 0x616e6b20, 0x66617273);
+        x.end(19);
+        CHECK.due("3 'switches 3;rank far'", x.net(), -1);
+        CHECK.due("3 not fars", x.fault(0) * 100 + x.fault(1), 119);
+        x.feed(0x73776974, 0x63686573, 0x2032333b, 0x20202020, 0x20202020);
+        x.end(10);
+        x.feed(0x3b3b3b3b, 0, 0, 0, 0);
+        x.end(11);
+        CHECK.due("2 comes behind what is left", x.net(), 2);
+    }
+
+    /** One object, net upon net: nothing of the one ahead is left. */
+    private static void netUponNet() {
+        TurnNet x = new TurnNet();
+        for (int i = 0; i < 2; i++) {
+            CHECK.due("4 all lines", Texts.tell(x, "switches 3;root 1;room 2;rank number+1;"), 3);
+            CHECK.due("5 without fault", x.fault(0) * 100 + x.fault(1), -1);
+            CHECK.due("4 a fault", Texts.tell(x, "switches 3;root 1;room 2;rank 1+1;link 0"), -1);
+            CHECK.due("5 its fault", x.fault(0) * 100 + x.fault(1), 140);
+        }
+        Texts.tell(x, "switches 3;link 0 1;link 1 2;");
+        CHECK.due("4 no rank told: far", x.node(2, 1), 2);
+        CHECK.due("17 in a line", x.length(0, 2), 2);
+        CHECK.due("21 in a line", x.entry(2, 1, 0), 2);
+        CHECK.due("33 in a line", x.without(1, 0), 4);
+        Texts.tell(x, "switches 3;link 0 1;link 0 2;");
+        CHECK.due("17 like bits, another net", x.length(0, 2), 1);
+        CHECK.due("21 like bits, another net", x.entry(2, 1, 0), 1);
+        CHECK.due("33 like bits, another net", x.without(1, 0), 4);
+        CHECK.due("36 like bits, another net", x.around(0, 1, 1), 1);
+    }
+
     private static void goodTexts() {
         good("", 0);
         good(" \n ", 0);
@@ -119,6 +160,12 @@ public final class TextPromisesTest {
         bad("switches 3;room 1;room 2;", 1, 18);
         bad("switches 3;far;", 1, 11);
         bad("switches 3;x", 1, 11);
+        bad("xwitches 3;", 1, 0);
+        bad("switches 3;xink 0 1;", 1, 11);
+        bad("switches 3;xoot 1;", 1, 11);
+        bad("switches 3;xank 1;", 1, 11);
+        bad("switches 3;linkz 0 1;", 1, 11);
+        bad("switches 3;rooma 1;", 1, 11);
         bad("switches 3;Link 0 1;", 1, 11);
         bad("switches 3;\tlink 0 1;", 1, 11);
         bad("switches 3;link 0" + (char) 200 + "1;", 1, 17);
@@ -142,6 +189,10 @@ public final class TextPromisesTest {
         bad("switches 3;rank root;", 1, 16);
         bad("switches 3;rank link;", 1, 16);
         bad("switches 3;rank fars;", 1, 16);
+        bad("switches 3;rank fara;", 1, 16);
+        bad("switches 3;rank farz;", 1, 16);
+        bad("switches 3;rank far far;", 1, 20);
+        bad("switches 3;rank xumber;", 1, 16);
         bad("switches 3;rank 1;rank 1;", 1, 18);
         bad("switches 3;rank ------1;", 4, 22);
         bad("switches 3;rank ------1000;", 2, 22);

@@ -245,6 +245,11 @@ public final class WayPromisesTest {
         CHECK.due("29 one", x.plan(1, 1), 1);
         CHECK.due("30 one", x.phase(1, 0), 0);
         CHECK.due("30 not this one", x.phase(1, 1), -1);
+        x.turn(0);
+        x.turn(1);
+        x.turn(2);
+        CHECK.due("29 those that are another one", x.plan(2, 0), 1);
+        CHECK.due("29 those that are another one", x.plan(0, 0), 3);
         // A ring that is there already forbids all, a cut link that has no turns, too.
         x = net("switches 5;link 0 1;link 1 2;link 0 2;link 3 4;");
         x.turn(2);
@@ -300,6 +305,9 @@ public final class WayPromisesTest {
         CHECK.due("33 none such", x.without(-1, 0), -1);
         CHECK.due("33 nothing is done", x.about(2) * 10 + x.about(9), 40);
         CHECK.due("34 of like ones the first", x.dearest(), 0);
+        x.turn(1);
+        CHECK.due("33 as it is turned already", x.without(0, 2), 0);
+        x.undo();
         x.cut(0);
         CHECK.due("33 it is cut", x.without(0, 0), -1);
         CHECK.due("33 it is cut", x.without(0, 2), -1);
@@ -331,6 +339,10 @@ public final class WayPromisesTest {
         // The shortest row of all, 0 1 3 5, takes a link of each of the two there are.
         x = net("switches 6;link 0 1;link 1 3;link 3 5;link 0 2;link 2 3;link 1 4;link 4 5;");
         CHECK.due("35 one gives way", x.apart(0, 5), 2);
+        CHECK.due("35 one gives way", x.apart(5, 0), 2);
+        x = net("switches 6;link 1 0;link 3 1;link 5 3;link 2 0;link 3 2;link 4 1;link 5 4;");
+        CHECK.due("35 told the other way", x.apart(0, 5), 2);
+        CHECK.due("35 told the other way", x.apart(5, 0), 2);
     }
 
     private static void around() {
