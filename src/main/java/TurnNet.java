@@ -793,13 +793,11 @@ public final class TurnNet {
             if (!isWord("switches")) {
                 return fail(1);
             }
-            advance();
             if (!readNumber(2, MAX_SWITCHES)) {
                 return false;
             }
             draft.switches = value;
-            advance();
-            return readSign(';');
+            return closeLine();
         }
 
         private boolean readLine() {
@@ -808,23 +806,19 @@ public final class TurnNet {
             }
             if (isWord("root") && !rootTold) {
                 rootTold = true;
-                advance();
                 if (!readNumber(0, draft.switches - 1)) {
                     return false;
                 }
                 draft.root = value;
-                advance();
-                return readSign(';');
+                return closeLine();
             }
             if (isWord("room") && !roomTold) {
                 roomTold = true;
-                advance();
                 if (!readNumber(1, 3)) {
                     return false;
                 }
                 draft.room = value;
-                advance();
-                return readSign(';');
+                return closeLine();
             }
             if (isWord("rank") && !rankTold) {
                 rankTold = true;
@@ -838,12 +832,10 @@ public final class TurnNet {
             if (draft.links >= MAX_LINKS) {
                 return fail(4);
             }
-            advance();
             if (!readNumber(0, draft.switches - 1)) {
                 return false;
             }
             int first = value;
-            advance();
             if (!readNumber(0, draft.switches - 1)) {
                 return false;
             }
@@ -854,12 +846,17 @@ public final class TurnNet {
                 return fail(3);
             }
             draft.addLink(first, value);
+            return closeLine();
+        }
+
+        private boolean closeLine() {
             advance();
             return readSign(';');
         }
 
         /** Stays on the number, so that what else is wrong with it is told at its place. */
         private boolean readNumber(int least, int most) {
+            advance();
             if (kind != NUMBER) {
                 return fail(1);
             }
