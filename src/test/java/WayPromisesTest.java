@@ -340,6 +340,11 @@ public final class WayPromisesTest {
         x = net("switches 6;link 0 1;link 1 3;link 3 5;link 0 2;link 2 3;link 1 4;link 4 5;");
         CHECK.due("35 one gives way", x.apart(0, 5), 2);
         CHECK.due("35 one gives way", x.apart(5, 0), 2);
+        // A link is taken, given back and taken again: four rows, as 1 and 5 have four links each.
+        x = net("switches 8;link 4 3;link 3 1;link 1 6;link 2 6;link 2 4;link 5 0;link 3 0;link 2 1;"
+                + "link 5 7;link 4 5;link 5 6;link 2 0;link 1 0;link 6 7;link 3 2;");
+        CHECK.due("35 taken again", x.apart(1, 5), 4);
+        CHECK.due("35 taken again", x.apart(5, 1), 4);
         x = net("switches 6;link 1 0;link 3 1;link 5 3;link 2 0;link 3 2;link 4 1;link 5 4;");
         CHECK.due("35 told the other way", x.apart(0, 5), 2);
         CHECK.due("35 told the other way", x.apart(5, 0), 2);
