@@ -143,6 +143,9 @@ public final class ActEdgesTest {
         RUNS.run(LINE, "send 0 2", "packet 0 2 = -1", "packet 0 3 = 0", "steps 1", "packet 0 2 = 0",
                 "steps 1", "packet 0 2 = 2", "steps 1", "send 1 0 = 0", "packet 0 2 = -1",
                 "packet 0 3 = 0");
+        RUNS.sentence("Terms: a new one has not WAITED, though one of its number had");
+        RUNS.run(LINE, "send 0 1", "cut 0", "steps 7", "packet 0 3 = 7", "mend 0", "steps 2", "about 5 = 0",
+                "send 2 1 = 0", "packet 0 3 = 0", "packet 0 2 = -1", "packet 0 1 = 1");
     }
 
     private static void atItsGoal() {

@@ -207,6 +207,8 @@ public final class AskEdgesTest {
                 "pairs 1 = 80", "pairs 2 = 0", "pairs 3 = 50");
         RUNS.run(SQUARE, "cut 0", "pairs 0 = 4", "pairs 1 = 10", "pairs 2 = 0", "pairs 3 = 0");
         RUNS.run(BARE, "pairs 0 = 6", "pairs 1 = 0", "pairs 2 = 0", "pairs 3 = 6");
+        RUNS.run(BARE, "pairs 3 = 6");
+        RUNS.run(TWO, "pairs 3 = 0", "cut 0", "pairs 3 = 2", "mend 0", "pairs 3 = 0");
         RUNS.run(null, "pairs 0 = 0", "pairs 1 = 0", "pairs 2 = 0", "pairs 3 = 0");
         RUNS.sentence("25 NONE for another what");
         RUNS.run(FIVE, "pairs 4 = -1", "pairs -1 = -1", "pairs most = -1", "pairs least = -1");
@@ -224,6 +226,8 @@ public final class AskEdgesTest {
         RUNS.sentence("26 CHANNELS of LINKS that are CUT have none");
         RUNS.run(LINE, "cut 0", "depends 0 2 = 0", "depends 3 1 = 0", "mend 0", "cut 1",
                 "depends 0 2 = 0", "depends 3 1 = 0", "mend 1", "depends 0 2 = 1");
+        RUNS.run(SQUARE, "depends 1 4 = 1", "depends 5 0 = 1", "cut 2", "depends 1 4 = 0", "depends 5 0 = 0",
+                "depends 0 2 = 1");
         RUNS.sentence("26 NONE if there are no such CHANNELS");
         RUNS.run(LINE, "depends 3 1 = 1", "depends 4 1 = -1", "depends 3 4 = -1", "depends -1 1 = -1",
                 "depends 3 -1 = -1", "depends 4 4 = -1", "depends most 0 = -1", "depends 0 least = -1",
@@ -281,6 +285,11 @@ public final class AskEdgesTest {
         RUNS.sentence("29 (-2: there is no PLAN)");
         RUNS.run(TRIANGLE, "plan 2 0 = 2", "plan 2 1 = -2", "plan 1 0 = 1", "plan 1 1 = 1");
         RUNS.run(LATE, "plan 3 0 = 3", "plan 3 1 = -2");
+        RUNS.sentence("Terms: TURNS by the rules ahead, or by those with it turned over (either is enough)");
+        RUNS.run(TRIANGLE, "plan 2 1 = -2", "turn 1", "rings = 0", "plan 2 1 = 1", "turn 2", "rings = 0",
+                "plan 2 0 = 0");
+        RUNS.sentence("Terms: in a PHASE LINKS are taken by their numbers, one by one");
+        RUNS.run(SQUARE, "phase 3 0 = 0", "phase 3 1 = 1", "phase 3 2 = 0", "phase 3 3 = 1");
         RUNS.sentence("29 NONE if there is no such SWITCH");
         RUNS.run(LINE, "plan 3 0 = -1", "plan 3 1 = -1", "plan -1 0 = -1", "plan most 1 = -1",
                 "plan least 1 = -1");

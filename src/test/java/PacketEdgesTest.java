@@ -127,6 +127,10 @@ public final class PacketEdgesTest {
         RUNS.run(LINE, "send 0 2", "send 0 2", "steps 1", "packet 1 4 = 0", "packet 1 3 = 1");
     }
 
+    /**
+     * Behind 120 STEPS all that can leave has left (12 PACKETS, nine CHANNELS and the leaving of each,
+     * someone moves in each STEP or nobody ever will), so the 200 have no other side to be told.
+     */
     private static void drains() {
         RUNS.sentence("40 behind how many STEPS from now on (0: now) no PACKET is there");
         RUNS.run(LINE, "drains = 0", "send 0 1", "drains = 2", "steps 1", "drains = 1", "steps 1",

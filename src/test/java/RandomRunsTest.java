@@ -6,6 +6,8 @@ import java.util.Random;
 public final class RandomRunsTest {
     private static final int RUNS = 400;
     private static final int CALLS = 300;
+    /** A text takes fifty calls at most, and no more than 512 are promised of an object. */
+    private static final int MOST_CALLS = Runs.MOST_CALLS - 50;
 
     /** Of each argument the kind (s: switch, l: link, c: channel) or the least and the greatest. */
     private static final String[] ACTS = {
@@ -55,7 +57,7 @@ public final class RandomRunsTest {
         if (run % 20 != 0) {
             tell(Texts.net(chance, most));
         }
-        for (int i = 0; i < CALLS && wrong < 10; i++) {
+        for (int i = 0; i < CALLS && calls < MOST_CALLS && wrong < 10; i++) {
             if (chance.nextInt(80) == 0) {
                 tell(chance.nextInt(4) == 0 ? Texts.net(chance, most) : Texts.broken(chance));
             } else if (chance.nextInt(3) == 0) {

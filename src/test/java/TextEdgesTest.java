@@ -145,6 +145,15 @@ public final class TextEdgesTest {
         bad("switches ^21;", 2);
         bad("switches 3;link 01^;", 1);
         bad("^switchess 3;", 1);
+        bad("^zwitches 3;", 1);
+        bad("^switchez 3;", 1);
+        bad(THREE + "^pink 0 1;", 1);
+        bad(THREE + "^boot 1;", 1);
+        bad(THREE + "^bank 1;", 1);
+        bad(THREE + "^boom 1;", 1);
+        bad(THREE + "rank ^car;", 1);
+        bad(THREE + "rank ^lumber;", 1);
+        bad(THREE + "rank ^winks;", 1);
         bad("^switche s 3;", 1);
         bad(THREE + "^linklink 0 1;", 1);
         bad(THREE + "^li nk 0 1;", 1);
@@ -505,6 +514,12 @@ public final class TextEdgesTest {
                 "about 8 = 0", "about 9 = 0", "about 10 = 0", "about 11 = 0", "undo = 0",
                 "redo = 0", "back 0 = -1", "back 1 = -1", "packet 0 0 = -2", "link 0 2 = 1",
                 "link 1 2 = 0", "link 2 2 = 0", "link 0 3 = 1", "node 2 1 = 1");
+        RUNS.sentence("4 nothing of the NET ahead is left, nor of a text with a FAULT");
+        RUNS.run(text, "node 2 1 = 1", "around 0 1 1 = 1", "tell switches 3;link 0 2;link 0 1; = 3",
+                "around 0 1 1 = -1", "tell switches 3;link 0 1;link 1 2; = 3", "node 2 1 = 2",
+                "around 0 1 1 = 1", "tell switches 3;root 1;room 3;rank 7+8* = -1",
+                "tell switches 3;link 0 1;link 1 2; = 3", "node 2 1 = 2", "about 3 = 0", "about 4 = 1",
+                "about 8 = 0", "tell switches 3;root 1;room 2;rank 5; = 3", "node 2 1 = 5", "about 8 = 1");
         RUNS.sentence("4 the same text once more begins anew, too");
         RUNS.run(text, "cut 0", "turn 1", "image 0", "tell " + text + " = 3", "about 2 = 2",
                 "link 1 2 = 1", "about 9 = 0", "back 0 = -1");

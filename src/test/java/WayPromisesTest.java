@@ -345,6 +345,10 @@ public final class WayPromisesTest {
                 + "link 5 7;link 4 5;link 5 6;link 2 0;link 1 0;link 6 7;link 3 2;");
         CHECK.due("35 taken again", x.apart(1, 5), 4);
         CHECK.due("35 taken again", x.apart(5, 1), 4);
+        x = net("switches 8;link 3 4;link 1 3;link 6 1;link 6 2;link 4 2;link 0 5;link 0 3;link 1 2;"
+                + "link 7 5;link 5 4;link 6 5;link 0 2;link 0 1;link 7 6;link 2 3;");
+        CHECK.due("35 taken again, told the other way", x.apart(1, 5), 4);
+        CHECK.due("35 taken again, told the other way", x.apart(5, 1), 4);
         x = net("switches 6;link 1 0;link 3 1;link 5 3;link 2 0;link 3 2;link 4 1;link 5 4;");
         CHECK.due("35 told the other way", x.apart(0, 5), 2);
         CHECK.due("35 told the other way", x.apart(5, 0), 2);
